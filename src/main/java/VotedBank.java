@@ -986,7 +986,7 @@ public final class VotedBank {
             int found = BAD;
             int word = 0;
             int start = 0;
-            for (int i = 0; i <= words.length(); i++) {
+            for (int i = 0; i <= words.length() && found == BAD; i++) {
                 if (i == words.length() || words.charAt(i) == ' ') {
                     if (i - start == end - from && isSpelled(from, end, words, start)) {
                         found = word;
@@ -1682,7 +1682,8 @@ public final class VotedBank {
             if (c < 2) {
                 return NONE;
             }
-            int returns = (left - c + c - 2) / (c - 1);
+            // Each boat there and back takes c - 1 over; the last one takes c, so 2 to c are left for it.
+            int returns = (left - 2) / (c - 1);
             return 2 * returns + 1;
         }
 

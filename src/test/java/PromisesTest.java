@@ -52,6 +52,7 @@ public final class PromisesTest {
         undoGoesBack();
         undoIsForgotten();
         imageGoesBack();
+        imageHoldsAllLines();
         lookTells();
         Due.end();
     }
@@ -313,6 +314,14 @@ public final class PromisesTest {
         due("end(7)", x.end(7), true);
         due("text(0)", x.text(0), 1);
         due("end(0)", x.end(0), true);
+        Due.feed(x, "sway 12345;");
+        due("cut within a number", x.end(9), true);
+        due("text(0)", x.text(0), NONE);
+        due("the end", x.fault(1), 9);
+        Due.feed(x, "sway 5;sway");
+        due("cut within a word", x.end(10), true);
+        due("text(0)", x.text(0), NONE);
+        due("the word", x.fault(1), 7);
     }
 
     private static void textIsTaken() {
@@ -349,7 +358,13 @@ public final class PromisesTest {
     private static void faultsOfLaw() {
         VotedBank x = new VotedBank();
         Due.faults(x, 0, "Sway 1;", 1, 0);
-        Due.faults(x, 0, "swayX 1;", 1, 0);
+        for (char letter : "azAZmM".toCharArray()) {
+            Due.faults(x, 0, "sway" + letter + " 1;", 1, 0);
+            Due.faults(x, 0, letter + "sway 1;", 1, 0);
+        }
+        for (char sign : "`{@[/:_".toCharArray()) {
+            Due.faults(x, 0, "sway" + sign + " 1;", 1, 4);
+        }
         Due.faults(x, 0, "sway", 1, 4);
         Due.faults(x, 0, "sway  ", 1, 6);
         Due.faults(x, 0, "sway 1 1;", 1, 7);
@@ -946,6 +961,27 @@ public final class PromisesTest {
             due("the tape is not of it", x.end(7), true);
             x.end(0);
             due("log()", x.log(), 1);
+        }
+    }
+
+    private static void imageHoldsAllLines() {
+        VotedBank x = bank(12345, 21345);
+        Due.tells(x, 2, "row 0;row 1;row 0;row 1;row 0;row 1;row 0;row 1;row 0;row 1;row 0;row 1;", 12);
+        for (int i = 0; i < 12; i++) {
+            x.log();
+        }
+        x.image(true);
+        for (int i = 0; i < 6; i++) {
+            x.undo();
+        }
+        for (int i = 0; i < 80; i++) {
+            x.stay(0, i % 2 == 0);
+        }
+        x.cross(3);
+        due("image(false)", x.image(false), true);
+        due("lines", x.look(7), 144);
+        for (int i = 0; i < 144; i++) {
+            line(x, i, i, 2, NONE, 1 + i % 2);
         }
     }
 
