@@ -1,4 +1,5 @@
 import java.io.IOException;
+import java.lang.reflect.Array;
 import java.lang.reflect.Constructor;
 import java.lang.reflect.Field;
 import java.lang.reflect.Method;
@@ -6,8 +7,11 @@ import java.lang.reflect.Modifier;
 import java.nio.file.Files;
 import java.nio.file.Path;
 import java.util.ArrayList;
+import java.util.Collections;
+import java.util.IdentityHashMap;
 import java.util.List;
 import java.util.Map;
+import java.util.Set;
 import java.util.TreeMap;
 import java.util.TreeSet;
 import java.util.regex.Matcher;
@@ -27,12 +31,13 @@ public final class LanguageTest {
     private LanguageTest() {
     }
 
-    public static void main(String[] args) throws IOException {
+    public static void main(String[] args) throws IOException, IllegalAccessException {
         String source = Files.readString(Path.of("src/main/java/VotedBank.java"));
         face();
         names();
         words(source);
         methods(source);
+        room();
         Due.end();
     }
 
@@ -96,6 +101,38 @@ public final class LanguageTest {
         }
         Due.due("texts joined by +", Pattern.compile("\"\\s*\\+|\\+\\s*\"").matcher(code).find(), false);
         Due.due("a sign above 127", source.chars().anyMatch(c -> c > 127), false);
+    }
+
+    /** What one object holds; since methods make nothing, it is all that a run of calls makes. */
+    private static void room() throws IllegalAccessException {
+        Set<Object> met = Collections.newSetFromMap(new IdentityHashMap<>());
+        int elements = elementsOf(new VotedBank(), met);
+        System.out.println(met.size() + " objects and arrays, " + elements + " fields and elements");
+        Due.due("objects and arrays are few", met.size() <= 200, true);
+        Due.due("fields and elements are few", elements <= 8000, true);
+    }
+
+    private static int elementsOf(Object x, Set<Object> met) throws IllegalAccessException {
+        if (x == null || x instanceof String || !met.add(x)) {
+            return 0;
+        }
+        int elements = 0;
+        if (x.getClass().isArray()) {
+            elements = Array.getLength(x);
+            if (x instanceof Object[] some) {
+                for (Object one : some) {
+                    elements += elementsOf(one, met);
+                }
+            }
+            return elements;
+        }
+        for (Field f : x.getClass().getDeclaredFields()) {
+            if (!Modifier.isStatic(f.getModifiers())) {
+                f.setAccessible(true);
+                elements += 1 + (f.getType().isPrimitive() ? 0 : elementsOf(f.get(x), met));
+            }
+        }
+        return elements;
     }
 
     /** Methods by their first line, with their lines: each ends with a bracket that stands as far in as it begins. */
