@@ -3,8 +3,14 @@ final class Due {
     private static final int SHOWN = 40;
     private static int asked = 0;
     private static int wrong = 0;
+    private static String part = "";
 
     private Due() {
+    }
+
+    /** What of the document the answers that follow are about; it stands ahead of each that is wrong. */
+    static void about(String sentence) {
+        part = sentence + ": ";
     }
 
     static void due(String call, long got, long want) {
@@ -12,7 +18,7 @@ final class Due {
         if (got != want) {
             wrong++;
             if (wrong <= SHOWN) {
-                System.out.println(call + " answered " + got + ", due is " + want);
+                System.out.println(part + call + " answered " + got + ", due is " + want);
             }
         }
     }

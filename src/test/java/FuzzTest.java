@@ -78,7 +78,7 @@ public final class FuzzTest {
         for (int i = 0; i < early; i++) {
             board();
         }
-        while (call < CALLS - 30) {
+        while (call < CALLS - 45) {
             int kind = chance.nextInt(100);
             if (kind < 3) {
                 if (model.people() < most || oneIn(10)) {

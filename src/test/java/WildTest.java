@@ -12,7 +12,7 @@ public final class WildTest {
         Random chance = new Random(4711);
         for (int run = 0; run < 300; run++) {
             VotedBank bank = new VotedBank();
-            for (int call = 0; call < 512; call++) {
+            for (int call = 0; call < 400; call++) {
                 if (call < run % 13) {
                     bank.passenger(call % 2 == 0 ? 12345 : 35142, chance.nextBoolean(), call % 10, 9 - call % 10);
                 } else {
