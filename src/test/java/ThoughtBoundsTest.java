@@ -755,7 +755,7 @@ public final class ThoughtBoundsTest {
     private static void gameOfSeveral() {
         Due.about("Promise 29, game: the PASSENGER (of several the least), how many (the fewest)");
         int[][] heaps = {{0, 3}, {1, 2}, {2, 1}, {3, 4}, {4, 3}, {1, 3}, {2, 4}, {1, 1, 1}, {2, 2, 1}, {1, 1, 2},
-            {9, 8, 7}, {8, 8, 8}, {0, 0, 0, 6}, {1, 2, 3}};
+            {9, 8, 7}, {8, 8, 8}, {0, 0, 0, 6}, {1, 2, 3}, {0, 1, 2}, {0, 3, 4}, {0, 2, 2}, {0, 0, 1, 1}};
         for (int[] heap : heaps) {
             VotedBank x = shells(alike(heap.length, 1), heap);
             int who = NONE;

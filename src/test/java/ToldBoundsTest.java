@@ -1,3 +1,7 @@
+import java.util.ArrayList;
+import java.util.Arrays;
+import java.util.List;
+
 /** Boundary cases of what is told, done, asked and undone: promises 1 to 7, 12 to 15 and 30 to 32. */
 public final class ToldBoundsTest {
     private static final int NONE = VotedBank.NONE;
@@ -27,6 +31,7 @@ public final class ToldBoundsTest {
         imageOnce();
         imageOfAll();
         imageOfOnePassenger();
+        imageOfFewer();
         imageTakenAnew();
         lookBounds();
         Due.end();
@@ -613,6 +618,41 @@ public final class ToldBoundsTest {
         x.stay(1, false);
         Due.due("log()", x.log(), 2);
         Due.due("over by the log", x.look(6), 2);
+    }
+
+    private static void imageOfFewer() {
+        Due.about("Terms 4, THE IMAGE: of those who came behind it nothing is left in thought");
+        int[] all = {12345, 54321, 31524, 21345, 45123, 12354, 54312, 21345, 31524, 12345, 45123, 54321};
+        for (int fewer = 0; fewer <= 11; fewer++) {
+            VotedBank x = bank(Arrays.copyOf(all, fewer));
+            x.image(true);
+            for (int p = fewer; p < 12; p++) {
+                x.passenger(all[p], false, 9, 9);
+                x.bribe(p, 0);
+            }
+            Due.tells(x, 1, "passenger 0 hears 11;passenger 11 hears 0;passenger 10 hears 11;", 3);
+            Due.tells(x, 0, "shells 9;", 1);
+            List<Integer> later = thoughts(x);
+            Due.due("gone back to", x.image(false), true);
+            List<Integer> then = thoughts(x);
+            Due.due("as of an object with " + fewer + " alone", then.equals(thoughts(bank(Arrays.copyOf(all, fewer)))), true);
+            Due.due("otherwise than with twelve", then.equals(later), false);
+        }
+    }
+
+    private static List<Integer> thoughts(VotedBank x) {
+        List<Integer> all = new ArrayList<>();
+        for (int land = 1; land <= 5; land++) {
+            all.addAll(List.of(x.costs(land, 0), x.costs(land, 1), x.makes(land, 0), x.makes(land, 1)));
+            all.addAll(List.of(x.beats(land, land % 5 + 1), x.wins(10 + land), x.wins(20 + land), x.boats(land, 0)));
+        }
+        for (int p = 0; p < 12; p++) {
+            all.addAll(List.of(x.pivots(p), x.reaches(p), x.alike(p, NONE), x.of(p, 8), x.would(1 << p, 1)));
+        }
+        for (int what = 0; what <= 1; what++) {
+            all.addAll(List.of(x.wins(what), x.boats(2, what), x.middle(what), x.game(what)));
+        }
+        return all;
     }
 
     private static void imageTakenAnew() {
