@@ -235,8 +235,8 @@ public final class FuzzTest {
             default:
                 what = oneIn(15) ? pick(-1, 7) : pick(0, 5);
                 int who = person();
-                int to = what == 3 ? rank() : what == 2 ? pick(-1, oneIn(4) ? 1000 : 10)
-                        : what == 2 && oneIn(3) ? 999 : pick(oneIn(9) ? -1 : 0, what == 1 ? 6 : 9);
+                int to = what == 3 ? rank() : what == 2 ? (oneIn(4) ? pick(997, 1000) : pick(-1, 10))
+                        : pick(oneIn(9) ? -1 : 0, what == 1 ? 6 : oneIn(9) ? 10 : 9);
                 same("set(" + what + ", " + who + ", " + to + ")", bank.set(what, who, to), model.set(what, who, to));
         }
     }

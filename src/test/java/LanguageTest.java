@@ -1,4 +1,6 @@
 import java.io.IOException;
+import java.io.PrintWriter;
+import java.io.StringWriter;
 import java.lang.reflect.Array;
 import java.lang.reflect.Constructor;
 import java.lang.reflect.Field;
@@ -11,11 +13,13 @@ import java.util.Collections;
 import java.util.IdentityHashMap;
 import java.util.List;
 import java.util.Map;
+import java.util.Optional;
 import java.util.Set;
 import java.util.TreeMap;
 import java.util.TreeSet;
 import java.util.regex.Matcher;
 import java.util.regex.Pattern;
+import java.util.spi.ToolProvider;
 
 /** What of LANGUAGE.md can be seen in the source and the compiled class: words, the face, lengths, what is made. */
 public final class LanguageTest {
@@ -28,6 +32,12 @@ public final class LanguageTest {
     private static final String[] BANNED = {"throw", "try", "catch", "synchronized", "assert", "->", "::", "System.out",
         "Exact", "Random", "Thread", "hashCode", "double", "float", "@"};
 
+    /** Of what LANGUAGE.md lists, all that the class needs. */
+    private static final Set<String> LIBRARY = Set.of("java.lang.Object.<init>", "java.lang.Integer.bitCount",
+            "java.lang.Integer.numberOfTrailingZeros", "java.lang.Math.max", "java.lang.Math.min",
+            "java.lang.String.charAt", "java.lang.String.indexOf", "java.lang.String.length",
+            "java.lang.System.arraycopy", "java.util.Arrays.fill");
+
     private LanguageTest() {
     }
 
@@ -38,6 +48,7 @@ public final class LanguageTest {
         words(source);
         methods(source);
         room();
+        calls();
         Due.end();
     }
 
@@ -159,5 +170,73 @@ public final class LanguageTest {
             boolean isConstructor = m.getKey().matches("(public )?[A-Z]\\w*\\(.*");
             Due.due(m.getKey() + " makes objects", makes && !isConstructor, false);
         }
+    }
+
+    /** What the compiled methods call: the library's functions that are listed alone, and not too deep. */
+    private static void calls() {
+        Optional<ToolProvider> javap = ToolProvider.findFirst("javap");
+        if (javap.isEmpty()) {
+            System.out.println("there is no javap here: what is called was not looked at");
+            return;
+        }
+        Map<String, Set<String>> called = calledBy(disassembled(javap.get()));
+        Due.due("methods are found", called.size() > 100, true);
+        for (Map.Entry<String, Set<String>> m : called.entrySet()) {
+            for (String callee : m.getValue()) {
+                Due.due(m.getKey() + " calls " + callee, called.containsKey(callee) || LIBRARY.contains(callee), true);
+            }
+        }
+        for (String method : called.keySet()) {
+            List<String> deepest = deepestFrom(method, called, new ArrayList<>());
+            Due.due("calls go eight deep at most: " + deepest, deepest.size() <= 8, true);
+        }
+    }
+
+    private static Map<String, Set<String>> calledBy(String code) {
+        Map<String, Set<String>> called = new TreeMap<>();
+        String owner = "";
+        Set<String> here = new TreeSet<>();
+        for (String line : code.split("\n")) {
+            Matcher type = Pattern.compile("^(?:\\w+ )*class (\\S+)").matcher(line);
+            Matcher head = Pattern.compile("^  (?:\\S+ )*([\\w.$]+)\\(.*\\);$").matcher(line);
+            Matcher call = Pattern.compile("// (?:Interface)?Method (\\S+):").matcher(line);
+            if (type.find()) {
+                owner = type.group(1);
+            } else if (head.find()) {
+                String name = head.group(1).equals(owner) ? "<init>" : head.group(1);
+                here = called.computeIfAbsent(owner + "." + name, key -> new TreeSet<>());
+            } else if (call.find()) {
+                String callee = call.group(1).replace("\"", "").replace('/', '.');
+                here.add(callee.contains(".") ? callee : owner + "." + callee);
+            }
+        }
+        return called;
+    }
+
+    private static String disassembled(ToolProvider javap) {
+        List<String> arguments = new ArrayList<>(List.of("-c", "-p", "-cp", System.getProperty("java.class.path")));
+        arguments.add("VotedBank");
+        for (Class<?> c : VotedBank.class.getDeclaredClasses()) {
+            arguments.add(c.getName());
+        }
+        StringWriter out = new StringWriter();
+        PrintWriter writer = new PrintWriter(out);
+        Due.due("javap", javap.run(writer, writer, arguments.toArray(new String[0])), 0);
+        return out.toString();
+    }
+
+    /** The longest row of calls from a method; one that is open already is a recursion, and is not gone into. */
+    private static List<String> deepestFrom(String method, Map<String, Set<String>> called, List<String> open) {
+        open.add(method);
+        List<String> deepest = new ArrayList<>();
+        for (String callee : called.get(method)) {
+            if (called.containsKey(callee) && !open.contains(callee)) {
+                List<String> row = deepestFrom(callee, called, open);
+                deepest = row.size() > deepest.size() ? row : deepest;
+            }
+        }
+        open.remove(open.size() - 1);
+        deepest.add(0, method);
+        return deepest;
     }
 }
